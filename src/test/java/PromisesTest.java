@@ -38,22 +38,6 @@ public final class PromisesTest {
         Check.due(call, got, want);
     }
 
-    /** A VISIT of these PAGES, without WAITS. */
-    private static void log(LoadPress x, int... pages) {
-        x.visit();
-        for (int page : pages) {
-            x.ask(page, 0);
-        }
-    }
-
-    /** PAGE 5 alone, for 10 ticks. */
-    private static LoadPress slowPage() {
-        LoadPress x = new LoadPress();
-        log(x, 5);
-        x.cost(5, 10);
-        return x;
-    }
-
     private static void constants() {
         due("NONE", LoadPress.NONE, -1);
         due("END", LoadPress.END, 10);
@@ -80,7 +64,7 @@ public final class PromisesTest {
         due("new: waiting", x.waiting(0), NONE);
         due("new: learn", x.learn(), NONE);
         LoadPress other = new LoadPress();
-        log(x, 1);
+        Given.log(x, 1);
         due("objects are apart", other.count(0), 0);
     }
 
@@ -120,7 +104,7 @@ public final class PromisesTest {
     }
 
     private static void clear() {
-        LoadPress x = slowPage();
+        LoadPress x = Given.slowPage();
         x.rare(END, 5, 7);
         x.press(2, 0, 1);
         x.clear();
@@ -134,7 +118,7 @@ public final class PromisesTest {
         due("press of a cleared log", x.press(1, 0, 1), NONE);
         due("the press stays", x.count(3), 2);
         due("its dealing stays", x.dealt(END, 5), 2);
-        log(x, 5);
+        Given.log(x, 5);
         due("rare numbers stay", x.steps(END, 5), 7);
         due("waits are new", x.waits(END, 5, 0), 1);
         x.press(1, 0, 1);
@@ -143,7 +127,7 @@ public final class PromisesTest {
 
     private static void steps() {
         LoadPress x = new LoadPress();
-        log(x, 1, 1, 2);
+        Given.log(x, 1, 1, 2);
         due("START to first", x.steps(END, 1), 1);
         due("to itself", x.steps(1, 1), 1);
         due("page to page", x.steps(1, 2), 1);
@@ -154,10 +138,10 @@ public final class PromisesTest {
         x.ask(1, 0);
         due("END moved on from 2", x.steps(2, END), 0);
         due("END moved on to 1", x.steps(1, END), 1);
-        log(x, 1);
+        Given.log(x, 1);
         due("two from START", x.steps(END, 1), 2);
         due("no step over two visits", x.steps(1, 1), 1);
-        log(x);
+        Given.log(x);
         due("none of an empty visit", x.steps(END, END), 0);
         for (int wrong : new int[] {-1, 11}) {
             due("steps from " + wrong, x.steps(wrong, 1), 0);
@@ -192,9 +176,9 @@ public final class PromisesTest {
 
     private static void rare() {
         LoadPress x = new LoadPress();
-        log(x, 1, 2);
-        log(x, 1, 2);
-        log(x, 1, 3);
+        Given.log(x, 1, 2);
+        Given.log(x, 1, 2);
+        Given.log(x, 1, 3);
         Check.due("rare 100", x.rare(1, 3, 100), true);
         due("at least 100", x.steps(1, 3), 100);
         Check.due("rare 1", x.rare(1, 2, 1), true);
@@ -223,7 +207,7 @@ public final class PromisesTest {
 
     private static void cost() {
         LoadPress x = new LoadPress();
-        log(x, 0);
+        Given.log(x, 0);
         x.press(1, 0, 1);
         due("cost at first", x.told(0, 0, 4), 1);
         Check.due("cost 50", x.cost(0, 50), true);
@@ -241,49 +225,49 @@ public final class PromisesTest {
 
     private static void contexts() {
         LoadPress x = new LoadPress();
-        log(x, 0, 1, 2, 3);
-        log(x, 1, 2, 3, 0);
-        log(x, 9);
-        log(x);
+        Given.log(x, 0, 1, 2, 3);
+        Given.log(x, 1, 2, 3, 0);
+        Given.log(x, 9);
+        Given.log(x);
         due("of 1", x.contexts(1), 5);
         due("of 2: 01 12 23 30", x.contexts(2), 4);
         due("of 3: 012 123 230", x.contexts(3), 3);
         due("of 4: 0123 1230", x.contexts(4), 2);
         due("of 0", x.contexts(0), NONE);
         due("of 5", x.contexts(5), NONE);
-        log(x, 0, 0, 0, 0, 0);
+        Given.log(x, 0, 0, 0, 0, 0);
         due("the same row twice is one", x.contexts(4), 3);
         due("00 is not 0", x.contexts(2), 5);
     }
 
     private static void states() {
         LoadPress x = new LoadPress();
-        log(x, 1, 3);
-        log(x, 2, 3);
+        Given.log(x, 1, 3);
+        Given.log(x, 2, 3);
         due("1 and 2 alike", x.states(1), 2);
-        log(x, 1, 3);
+        Given.log(x, 1, 3);
         due("still alike: 2 to 1 of them", x.states(1), 2);
-        log(x, 1, 4);
+        Given.log(x, 1, 4);
         due("1 other than 2; 3 and 4 alike", x.states(1), 3);
-        log(x, 2, 4);
+        Given.log(x, 2, 4);
         due("1: 2 and 1, 2: 1 and 1", x.states(1), 3);
-        log(x, 2, 3);
+        Given.log(x, 2, 3);
         due("both 2 and 1", x.states(1), 2);
-        log(x, 2, 3, 5, 3);
+        Given.log(x, 2, 3, 5, 3);
         due("3: 5 and END, 5: 3; 2 other", x.states(1), 5);
         due("of 0", x.states(0), NONE);
         due("of 5", x.states(5), NONE);
         LoadPress y = new LoadPress();
-        log(y, 1, 3);
-        log(y, 1, 3);
-        log(y, 1, 4);
-        log(y, 1, 4);
-        log(y, 2, 3);
-        log(y, 2, 4);
+        Given.log(y, 1, 3);
+        Given.log(y, 1, 3);
+        Given.log(y, 1, 4);
+        Given.log(y, 1, 4);
+        Given.log(y, 2, 3);
+        Given.log(y, 2, 4);
         due("2 and 2 is 1 and 1", y.states(1), 2);
         y.rare(1, 3, 50);
         due("rare numbers are none of nexts", y.states(1), 2);
-        log(y, 1, 4);
+        Given.log(y, 1, 4);
         due("2 and 3 is not 1 and 1", y.states(1), 3);
         due("rows of two end all", y.states(2), 1);
         due("but they are four", y.contexts(2), 4);
@@ -294,7 +278,7 @@ public final class PromisesTest {
         LoadPress x = new LoadPress();
         x.visit();
         due("no step from START", x.press(1, 0, 1), NONE);
-        log(x, 4, 4);
+        Given.log(x, 4, 4);
         due("1 visit", x.press(1, 0, 1), 2);
         due("60 visits, gap 100, 8 servers", x.press(60, 100, 8), 120);
         for (int[] wrong : new int[][] {{0, 0, 1}, {61, 0, 1}, {1, -1, 1}, {1, 101, 1}, {1, 0, 0}, {1, 0, 9}}) {
@@ -309,7 +293,7 @@ public final class PromisesTest {
     private static void dealing() {
         LoadPress x = new LoadPress();
         for (int page : new int[] {0, 0, 0, 1, 1, 2}) {
-            log(x, page);
+            Given.log(x, page);
         }
         x.press(12, 0, 8);
         // 3, 2 and 1 of 6: from times 1, 3, 5 up to 2, 4, 6; from 1, 4 up to 3, 6; from 1 up to 6
@@ -325,9 +309,9 @@ public final class PromisesTest {
         due("a rare road comes in its share", x.dealt(END, 2), 20);
         due("and no more", x.told(20, 0, 0), 0);
         LoadPress y = new LoadPress();
-        log(y, 0, 7);
-        log(y, 0, 7);
-        log(y, 0);
+        Given.log(y, 0, 7);
+        Given.log(y, 0, 7);
+        Given.log(y, 0);
         y.press(3, 0, 1);
         // 7 from times 1, 2 up to 2, 3; END from 1 up to 3
         due("7 is least", y.walked(0), 2);
@@ -354,13 +338,13 @@ public final class PromisesTest {
 
     private static void walked() {
         LoadPress x = new LoadPress();
-        log(x, 1, 1, 1);
+        Given.log(x, 1, 1, 1);
         x.press(2, 0, 1);
         due("walked 0", x.walked(0), 3);
         due("walked 1", x.walked(1), 3);
         due("walked -1", x.walked(-1), NONE);
         due("walked 2", x.walked(2), NONE);
-        log(x, 1);
+        Given.log(x, 1);
         x.press(4, 0, 1);
         due("half of them END: 1 1", x.walked(3), 2);
         x.rare(1, 1, 100);
@@ -391,7 +375,7 @@ public final class PromisesTest {
     }
 
     private static void orderAndServers() {
-        LoadPress x = slowPage();
+        LoadPress x = Given.slowPage();
         x.press(4, 0, 3);
         for (int v = 0; v < 3; v++) {
             due("alike ones by visits", x.told(v, 0, 5), v);
@@ -399,9 +383,9 @@ public final class PromisesTest {
         due("the fourth waits", x.told(3, 0, 3), 10);
         due("on the lowest", x.told(3, 0, 5), 0);
         LoadPress y = new LoadPress();
-        log(y, 1);
-        log(y, 2);
-        log(y, 3);
+        Given.log(y, 1);
+        Given.log(y, 2);
+        Given.log(y, 3);
         y.cost(1, 9);
         y.cost(2, 2);
         y.press(3, 20, 2);
@@ -419,7 +403,7 @@ public final class PromisesTest {
 
     private static void dealt() {
         LoadPress x = new LoadPress();
-        log(x, 1, 2, 1);
+        Given.log(x, 1, 2, 1);
         x.press(2, 0, 1);
         due("START to 1", x.dealt(END, 1), 2);
         due("1 to 2", x.dealt(1, 2), 2);
@@ -441,7 +425,7 @@ public final class PromisesTest {
     }
 
     private static void part() {
-        LoadPress x = slowPage();
+        LoadPress x = Given.slowPage();
         x.press(3, 5, 1);
         // they take 10, 15 and 20
         int[][] all = {{1, 10}, {333, 10}, {334, 15}, {666, 15}, {667, 20}, {1000, 20}};
@@ -456,14 +440,14 @@ public final class PromisesTest {
         due("from 3 on", x.part(500, 3), NONE);
         due("from -1 on", x.part(500, -1), NONE);
         x.cost(5, 50);
-        log(x, 5, 5);
+        Given.log(x, 5, 5);
         x.rare(5, 5, 100);
         x.press(60, 0, 1);
         due("the longest of all", x.part(1000, 0), x.told(59, 0, 4));
     }
 
     private static void late() {
-        LoadPress x = slowPage();
+        LoadPress x = Given.slowPage();
         x.press(3, 5, 1);
         due("late 0", x.late(0, 0), 3);
         due("late 9", x.late(9, 0), 3);
@@ -480,7 +464,7 @@ public final class PromisesTest {
     }
 
     private static void behind() {
-        LoadPress x = slowPage();
+        LoadPress x = Given.slowPage();
         x.press(3, 5, 1);
         due("from the second on", x.behind(), 5);
         x.press(3, 0, 1);
@@ -501,8 +485,8 @@ public final class PromisesTest {
         x.press(12, 9, 1);
         due("of rows that overlap", x.behind(), 81);
         LoadPress y = new LoadPress();
-        log(y, 1);
-        log(y, 2);
+        Given.log(y, 1);
+        Given.log(y, 2);
         y.cost(1, 30);
         y.press(2, 10, 1);
         due("waits from 10 to 29", y.behind(), 10);
@@ -513,7 +497,7 @@ public final class PromisesTest {
     }
 
     private static void waiting() {
-        LoadPress x = slowPage();
+        LoadPress x = Given.slowPage();
         x.press(3, 5, 1);
         int[][] all = {{0, 0}, {4, 0}, {5, 1}, {9, 1}, {10, 1}, {19, 1}, {20, 0}, {1_000_000, 0}};
         for (int[] one : all) {
@@ -532,7 +516,7 @@ public final class PromisesTest {
         x.ask(1, 8);
         x.ask(2, 9);
         x.press(60, 0, 1);
-        log(x, 7);
+        Given.log(x, 7);
         x.rare(END, 1, 90);
         due("learnt", x.learn(), 120);
         due("as many visits", x.count(0), 60);
@@ -549,7 +533,7 @@ public final class PromisesTest {
         due("without what was added", x.steps(2, 3), 0);
         due("contexts of it", x.contexts(2), 1);
         LoadPress y = new LoadPress();
-        log(y, 1, 1);
+        Given.log(y, 1, 1);
         y.rare(1, 1, 100);
         y.press(1, 0, 1);
         due("20 are learnt", y.learn(), 20);
@@ -558,9 +542,9 @@ public final class PromisesTest {
     }
 
     private static void count() {
-        LoadPress x = slowPage();
-        log(x, 1, 5);
-        log(x);
+        LoadPress x = Given.slowPage();
+        Given.log(x, 1, 5);
+        Given.log(x);
         x.cost(1, 50);
         due("visits", x.count(0), 3);
         due("asks", x.count(1), 3);
@@ -578,15 +562,15 @@ public final class PromisesTest {
         due("count(-1)", x.count(-1), NONE);
         due("count(7)", x.count(7), NONE);
         LoadPress y = new LoadPress();
-        log(y, 1);
-        log(y, 2);
+        Given.log(y, 1);
+        Given.log(y, 2);
         y.cost(1, 50);
         y.press(2, 1, 2);
         due("the first begun ends last", y.count(4), 50);
     }
 
     private static void farNumbers() {
-        LoadPress x = slowPage();
+        LoadPress x = Given.slowPage();
         x.press(2, 0, 1);
         for (int far : FAR) {
             due("far ask", x.ask(far, 0), NONE);
